@@ -21,6 +21,7 @@ public final class ChambersTest {
         hourOfCooling();
         preheating();
         fireMovesOn();
+        firingTemperature();
         passHours();
         chamberQueries();
         ranks();
@@ -226,6 +227,18 @@ public final class ChambersTest {
         Check.due(8, kiln.heat());
         // Without the fire both cool at once: by a tenth of 150 and of 40.
         Check.due("155 56 20 20 20 20 20 20", temperatures(kiln));
+        RingKiln even = new RingKiln();
+        even.addFuel('c', 1);
+        even.addFuel('o', 1);
+        even.feed(20);
+        even.load(0, 5);
+        even.light(0);
+        even.passHours(2);
+        Check.due(true, even.isLit());
+        Check.due(0, even.heat());
+        Check.due(320, even.temperature(0));
+        even.passHours(1);
+        Check.due(false, even.isLit());
         RingKiln just = new RingKiln();
         just.addFuel('w', 4);
         just.addFuel('c', 1);
@@ -329,6 +342,38 @@ public final class ChambersTest {
         met.passHours(6);
         Check.due('f', met.state(0));
         Check.due(false, met.isLit());
+    }
+
+    private static void firingTemperature() {
+        Check.topic("one hour, bricks are fired from 900 degrees on");
+        RingKiln kiln = heated();
+        kiln.setDraught(0);
+        kiln.load(0, 5);
+        kiln.light(0);
+        kiln.passHours(1);
+        kiln.quench();
+        // 170, 163, 156, 150: each time without a twentieth of what exceeds 20.
+        kiln.passHours(3);
+        kiln.light(0);
+        Check.due(0, kiln.passHours(4));
+        Check.due(750, kiln.temperature(0));
+        Check.due(5, kiln.passHours(1));
+        Check.due(900, kiln.temperature(0));
+        Check.due('f', kiln.state(0));
+        RingKiln below = heated();
+        below.load(0, 5);
+        below.light(0);
+        below.passHours(5);
+        below.quench();
+        below.passHours(17);
+        Check.due(149, below.temperature(0));
+        below.light(0);
+        Check.due(0, below.passHours(5));
+        Check.due(899, below.temperature(0));
+        Check.due('g', below.state(0));
+        Check.due(0, below.fireChamber());
+        Check.due(5, below.passHours(1));
+        Check.due(1049, below.temperature(0));
     }
 
     private static void passHours() {

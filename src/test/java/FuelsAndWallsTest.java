@@ -125,6 +125,17 @@ public final class FuelsAndWallsTest {
         Check.due(999, full.heat());
         Check.refused(STATE, () -> full.feed(1));
         Check.refused(UNSUPPORTED, () -> fuelled(3, 0, 0).feed(10));
+        RingKiln even = fuelled(0, 2, 82);
+        even.setPrice('c', 20);
+        for (int units : new int[] {192, 200, 200, 200, 180}) {
+            even.feed(units);
+        }
+        Check.due(0, even.fuel('o'));
+        Check.due(984, even.heat());
+        even.feed(8);
+        // 992 and 8 more are one too many.
+        Check.refused(STATE, () -> even.feed(8));
+        Check.due(992, even.heat());
     }
 
     private static void lowestCost() {
