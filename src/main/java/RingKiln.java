@@ -960,7 +960,7 @@ public final class RingKiln {
                 return;
             }
             int lastJoint = rest == 0 ? 0 : 1 << rest;
-            for (int i = 0; i < counts[rest]; i++) {
+            for (int i = 0; i < counts[rest] && counts[width] < MOST_OF_A_WIDTH; i++) {
                 joints[width][counts[width]] = joints[rest][i] | lastJoint;
                 counts[width]++;
             }
