@@ -32,23 +32,6 @@ public final class ChambersTest {
         Check.finish();
     }
 
-    /** Returns a kiln with 408 units of heat in the store. */
-    private static RingKiln heated() {
-        RingKiln kiln = new RingKiln();
-        kiln.addFuel('o', 34);
-        kiln.feed(200);
-        kiln.feed(200);
-        return kiln;
-    }
-
-    private static String temperatures(RingKiln kiln) {
-        StringBuilder text = new StringBuilder();
-        for (int i = 0; i < 8; i++) {
-            text.append(i == 0 ? "" : " ").append(kiln.temperature(i));
-        }
-        return text.toString();
-    }
-
     private static void newObject() {
         Check.topic("promise 1, a new object");
         RingKiln kiln = new RingKiln();
@@ -76,7 +59,7 @@ public final class ChambersTest {
 
     private static void load() {
         Check.topic("promise 2, load");
-        RingKiln kiln = heated();
+        RingKiln kiln = Kilns.heated();
         Check.due(1, kiln.load(0, 1));
         Check.due(2, kiln.load(7, 60));
         Check.due('g', kiln.state(0));
@@ -112,7 +95,7 @@ public final class ChambersTest {
 
     private static void unload() {
         Check.topic("promise 3, unload");
-        RingKiln kiln = heated();
+        RingKiln kiln = Kilns.heated();
         kiln.setDraught(5);
         kiln.load(0, 20);
         kiln.load(1, 15);
@@ -141,7 +124,7 @@ public final class ChambersTest {
 
     private static void light() {
         Check.topic("promise 4, light");
-        RingKiln kiln = heated();
+        RingKiln kiln = Kilns.heated();
         kiln.load(3, 5);
         kiln.load(4, 5);
         Check.refused(INDEX, () -> kiln.light(-1));
@@ -166,7 +149,7 @@ public final class ChambersTest {
 
     private static void quench() {
         Check.topic("promise 5, quench");
-        RingKiln kiln = heated();
+        RingKiln kiln = Kilns.heated();
         Check.refused(STATE, () -> kiln.quench());
         kiln.load(6, 5);
         kiln.light(6);
@@ -191,20 +174,20 @@ public final class ChambersTest {
 
     private static void hourOfHeating() {
         Check.topic("one hour, heating");
-        RingKiln kiln = heated();
+        RingKiln kiln = Kilns.heated();
         kiln.load(7, 5);
         kiln.light(7);
         Check.due(0, kiln.passHours(1));
         Check.due(1, kiln.time());
         Check.due(398, kiln.heat());
-        Check.due("60 20 20 20 20 20 20 170", temperatures(kiln));
+        Check.due("60 20 20 20 20 20 20 170", Kilns.temperatures(kiln));
         kiln.passHours(1);
-        Check.due("100 20 20 20 20 20 20 320", temperatures(kiln));
+        Check.due("100 20 20 20 20 20 20 320", Kilns.temperatures(kiln));
         kiln.passHours(3);
-        Check.due("220 20 20 20 20 20 20 770", temperatures(kiln));
+        Check.due("220 20 20 20 20 20 20 770", Kilns.temperatures(kiln));
         Check.due('g', kiln.state(7));
         Check.due(5, kiln.passHours(1));
-        Check.due("260 20 20 20 20 20 20 920", temperatures(kiln));
+        Check.due("260 20 20 20 20 20 20 920", Kilns.temperatures(kiln));
         Check.due('f', kiln.state(7));
         Check.due(false, kiln.isLit());
         Check.due(348, kiln.heat());
@@ -221,12 +204,12 @@ public final class ChambersTest {
         kiln.passHours(1);
         Check.due(8, kiln.heat());
         Check.due(true, kiln.isLit());
-        Check.due("170 60 20 20 20 20 20 20", temperatures(kiln));
+        Check.due("170 60 20 20 20 20 20 20", Kilns.temperatures(kiln));
         kiln.passHours(1);
         Check.due(false, kiln.isLit());
         Check.due(8, kiln.heat());
         // Without the fire both cool at once: by a tenth of 150 and of 40.
-        Check.due("155 56 20 20 20 20 20 20", temperatures(kiln));
+        Check.due("155 56 20 20 20 20 20 20", Kilns.temperatures(kiln));
         RingKiln even = new RingKiln();
         even.addFuel('c', 1);
         even.addFuel('o', 1);
@@ -249,7 +232,7 @@ public final class ChambersTest {
         just.passHours(1);
         Check.due(false, just.isLit());
         Check.due(9, just.heat());
-        Check.due("20 20 20 20 20 20 20 20", temperatures(just));
+        Check.due("20 20 20 20 20 20 20 20", Kilns.temperatures(just));
         just.undo();
         just.undo();
         just.feed(1);
@@ -263,7 +246,7 @@ public final class ChambersTest {
         Check.topic("one hour, cooling by the draught");
         int[] after = {448, 425, 403, 380, 358, 335};
         for (int draught = 0; draught <= 5; draught++) {
-            RingKiln kiln = heated();
+            RingKiln kiln = Kilns.heated();
             kiln.load(0, 5);
             kiln.light(0);
             kiln.passHours(3);
@@ -273,7 +256,7 @@ public final class ChambersTest {
             kiln.passHours(1);
             Check.due(after[draught], kiln.temperature(0));
         }
-        RingKiln kiln = heated();
+        RingKiln kiln = Kilns.heated();
         kiln.load(0, 5);
         kiln.load(3, 5);
         kiln.light(0);
@@ -282,12 +265,12 @@ public final class ChambersTest {
         kiln.light(3);
         kiln.passHours(1);
         // What does not burn cools while the fire burns elsewhere.
-        Check.due("425 128 20 170 60 20 20 20", temperatures(kiln));
+        Check.due("425 128 20 170 60 20 20 20", Kilns.temperatures(kiln));
     }
 
     private static void preheating() {
         Check.topic("one hour, the next chamber is preheated");
-        RingKiln kiln = heated();
+        RingKiln kiln = Kilns.heated();
         kiln.load(0, 5);
         kiln.load(1, 5);
         kiln.light(1);
@@ -295,7 +278,7 @@ public final class ChambersTest {
         kiln.quench();
         kiln.light(0);
         kiln.passHours(1);
-        Check.due("170 500 128 20 20 20 20 20", temperatures(kiln));
+        Check.due("170 500 128 20 20 20 20 20", Kilns.temperatures(kiln));
         kiln.passHours(1);
         Check.due(500, kiln.temperature(1));
         kiln.undo();
@@ -307,7 +290,7 @@ public final class ChambersTest {
         kiln.light(0);
         kiln.passHours(1);
         // 620 is above what preheating reaches: it neither rises nor cools beside the fire.
-        Check.due("170 620 164 20 20 20 20 20", temperatures(kiln));
+        Check.due("170 620 164 20 20 20 20 20", Kilns.temperatures(kiln));
         kiln.quench();
         kiln.light(1);
         // It enters the fire at 620 and is at 920 after two hours.
@@ -317,7 +300,7 @@ public final class ChambersTest {
 
     private static void fireMovesOn() {
         Check.topic("one hour, the fire moves on");
-        RingKiln kiln = heated();
+        RingKiln kiln = Kilns.heated();
         kiln.load(7, 5);
         kiln.load(0, 7);
         kiln.light(7);
@@ -325,7 +308,7 @@ public final class ChambersTest {
         Check.due(true, kiln.isLit());
         Check.due(0, kiln.fireChamber());
         Check.due(0, kiln.passHours(1));
-        Check.due("410 60 20 20 20 20 20 830", temperatures(kiln));
+        Check.due("410 60 20 20 20 20 20 830", Kilns.temperatures(kiln));
         Check.due(0, kiln.passHours(3));
         Check.due(7, kiln.passHours(1));
         Check.due(1010, kiln.temperature(0));
@@ -333,7 +316,7 @@ public final class ChambersTest {
         Check.due(false, kiln.isLit());
         Check.due(298, kiln.heat());
         // A fired chamber does not take the fire, so the fire that meets one goes out.
-        RingKiln met = heated();
+        RingKiln met = Kilns.heated();
         met.load(1, 5);
         met.light(1);
         met.passHours(6);
@@ -346,7 +329,7 @@ public final class ChambersTest {
 
     private static void firingTemperature() {
         Check.topic("one hour, bricks are fired from 900 degrees on");
-        RingKiln kiln = heated();
+        RingKiln kiln = Kilns.heated();
         kiln.setDraught(0);
         kiln.load(0, 5);
         kiln.light(0);
@@ -360,7 +343,7 @@ public final class ChambersTest {
         Check.due(5, kiln.passHours(1));
         Check.due(900, kiln.temperature(0));
         Check.due('f', kiln.state(0));
-        RingKiln below = heated();
+        RingKiln below = Kilns.heated();
         below.load(0, 5);
         below.light(0);
         below.passHours(5);
@@ -387,7 +370,7 @@ public final class ChambersTest {
         Check.due(48, kiln.time());
         Check.due(0, kiln.passHours(1));
         Check.due(49, kiln.time());
-        RingKiln full = heated();
+        RingKiln full = Kilns.heated();
         full.addFuel('o', 5);
         full.feed(60);
         for (int i = 0; i < 8; i++) {
@@ -403,7 +386,7 @@ public final class ChambersTest {
 
     private static void chamberQueries() {
         Check.topic("promises 13 to 15 and 17 to 19, queries");
-        RingKiln kiln = heated();
+        RingKiln kiln = Kilns.heated();
         Check.due(false, kiln.isLit());
         Check.refused(MISSING, () -> kiln.fireChamber());
         Check.due(408, kiln.heat());
@@ -428,7 +411,7 @@ public final class ChambersTest {
 
     private static void ranks() {
         Check.topic("promise 20, chamberAtRank");
-        RingKiln kiln = heated();
+        RingKiln kiln = Kilns.heated();
         kiln.load(2, 10);
         kiln.load(4, 30);
         kiln.load(5, 30);
@@ -445,7 +428,7 @@ public final class ChambersTest {
 
     private static void chambersIn() {
         Check.topic("promise 21, chambersIn");
-        RingKiln kiln = heated();
+        RingKiln kiln = Kilns.heated();
         kiln.load(0, 1);
         kiln.load(2, 1);
         kiln.load(4, 1);
@@ -461,7 +444,7 @@ public final class ChambersTest {
 
     private static void predictions() {
         Check.topic("promises 22 and 24, hoursUntilOut and firedIn");
-        RingKiln kiln = heated();
+        RingKiln kiln = Kilns.heated();
         Check.due(0, kiln.hoursUntilOut());
         Check.due(0, kiln.firedIn(100));
         kiln.load(7, 5);
@@ -479,7 +462,7 @@ public final class ChambersTest {
         Check.due(0, kiln.time());
         Check.due('g', kiln.state(7));
         Check.due(408, kiln.heat());
-        Check.due("20 20 20 20 20 20 20 20", temperatures(kiln));
+        Check.due("20 20 20 20 20 20 20 20", Kilns.temperatures(kiln));
         kiln.passHours(10);
         Check.due(1, kiln.hoursUntilOut());
         kiln.passHours(1);
@@ -493,13 +476,13 @@ public final class ChambersTest {
 
     private static void coolingPredictions() {
         Check.topic("promise 23, hoursUntilCool");
-        RingKiln kiln = heated();
+        RingKiln kiln = Kilns.heated();
         kiln.load(0, 5);
         kiln.light(0);
         kiln.passHours(1);
         Check.due(0, kiln.hoursUntilCool(1));
         kiln.passHours(1);
-        Check.due("320 100 20 20 20 20 20 20", temperatures(kiln));
+        Check.due("320 100 20 20 20 20 20 20", Kilns.temperatures(kiln));
         kiln.quench();
         Check.due(8, kiln.hoursUntilCool(1));
         Check.due(0, kiln.hoursUntilCool(2));
@@ -511,7 +494,7 @@ public final class ChambersTest {
         Check.due(0, kiln.hoursUntilCool(1));
         Check.due(10, kiln.time());
         // It counts the hours to the first time, also if the fire comes to the chamber afterwards.
-        RingKiln later = heated();
+        RingKiln later = Kilns.heated();
         later.load(0, 5);
         later.load(1, 5);
         later.load(2, 5);
@@ -526,7 +509,7 @@ public final class ChambersTest {
 
     private static void shares() {
         Check.topic("promises 39 and 40, meanTemperature and firedShare");
-        RingKiln kiln = heated();
+        RingKiln kiln = Kilns.heated();
         Check.due(20.0, kiln.meanTemperature());
         Check.refused(ArithmeticException.class, () -> kiln.firedShare());
         kiln.load(0, 10);

@@ -15,6 +15,10 @@ final class Check {
         topic = name;
     }
 
+    static int answers() {
+        return answers;
+    }
+
     static void due(Object want, Object got) {
         answers++;
         if (!want.toString().equals(String.valueOf(got))) {

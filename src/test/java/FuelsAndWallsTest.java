@@ -23,24 +23,6 @@ public final class FuelsAndWallsTest {
         Check.finish();
     }
 
-    private static RingKiln fuelled(int wood, int coal, int oil) {
-        RingKiln kiln = new RingKiln();
-        int[] pieces = {wood, coal, oil};
-        for (int kind = 0; kind < 3; kind++) {
-            for (int left = pieces[kind]; left > 0; left -= 50) {
-                kiln.addFuel("wco".charAt(kind), Math.min(left, 50));
-            }
-        }
-        return kiln;
-    }
-
-    private static RingKiln priced(RingKiln kiln, int wood, int coal, int oil) {
-        kiln.setPrice('w', wood);
-        kiln.setPrice('c', coal);
-        kiln.setPrice('o', oil);
-        return kiln;
-    }
-
     private static void mixture(RingKiln kiln, int units, int cost, int wood, int coal, int oil) {
         Check.due(cost, kiln.lowestCost(units));
         Check.due(cost, kiln.lowestCostByTrying(units));
@@ -92,7 +74,7 @@ public final class FuelsAndWallsTest {
 
     private static void feed() {
         Check.topic("promise 10, feed");
-        RingKiln kiln = fuelled(40, 20, 5);
+        RingKiln kiln = Kilns.fuelled(40, 20, 5);
         Check.refused(ARGUMENT, () -> kiln.feed(0));
         Check.refused(ARGUMENT, () -> kiln.feed(201));
         // 17 pieces of wood give 51 units for 17 coins; with coal 50 for 17 are 14 pieces and 1 of coal.
@@ -102,13 +84,13 @@ public final class FuelsAndWallsTest {
         Check.due(19, kiln.fuel('c'));
         Check.due(5, kiln.fuel('o'));
         Check.due(17, kiln.paidTotal());
-        RingKiln poor = fuelled(1, 1, 1);
+        RingKiln poor = Kilns.fuelled(1, 1, 1);
         Check.refused(UNSUPPORTED, () -> poor.feed(24));
         Check.refused(UNSUPPORTED, () -> new RingKiln().feed(1));
         Check.due(9, poor.feed(23));
         Check.due(23, poor.heat());
         Check.due(0, poor.fuel('w') + poor.fuel('c') + poor.fuel('o'));
-        RingKiln full = fuelled(0, 0, 99);
+        RingKiln full = Kilns.fuelled(0, 0, 99);
         for (int heat = 204; heat <= 816; heat += 204) {
             Check.due(85, full.feed(200));
             Check.due(heat, full.heat());
@@ -124,8 +106,8 @@ public final class FuelsAndWallsTest {
         Check.due(1, full.feed(3));
         Check.due(999, full.heat());
         Check.refused(STATE, () -> full.feed(1));
-        Check.refused(UNSUPPORTED, () -> fuelled(3, 0, 0).feed(10));
-        RingKiln even = fuelled(0, 2, 82);
+        Check.refused(UNSUPPORTED, () -> Kilns.fuelled(3, 0, 0).feed(10));
+        RingKiln even = Kilns.fuelled(0, 2, 82);
         even.setPrice('c', 20);
         for (int units : new int[] {192, 200, 200, 200, 180}) {
             even.feed(units);
@@ -140,7 +122,7 @@ public final class FuelsAndWallsTest {
 
     private static void lowestCost() {
         Check.topic("promises 27 and 28, lowestCost in both ways");
-        RingKiln kiln = fuelled(40, 20, 5);
+        RingKiln kiln = Kilns.fuelled(40, 20, 5);
         Check.due(4, kiln.lowestCost(10));
         Check.due(4, kiln.lowestCostByTrying(10));
         Check.due(17, kiln.lowestCost(50));
@@ -150,32 +132,32 @@ public final class FuelsAndWallsTest {
             Check.refused(ARGUMENT, () -> kiln.lowestCostByTrying(units));
             Check.refused(ARGUMENT, () -> kiln.piecesInMixture('w', units));
         }
-        RingKiln little = fuelled(2, 3, 1);
+        RingKiln little = Kilns.fuelled(2, 3, 1);
         Check.due(2 + 9 + 5, little.lowestCost(42));
         Check.due(2 + 9 + 5, little.lowestCostByTrying(42));
         Check.refused(UNSUPPORTED, () -> little.lowestCost(43));
         Check.refused(UNSUPPORTED, () -> little.lowestCostByTrying(43));
         Check.refused(UNSUPPORTED, () -> new RingKiln().lowestCost(1));
         Check.refused(UNSUPPORTED, () -> new RingKiln().lowestCostByTrying(1));
-        RingKiln woodOnly = priced(fuelled(67, 0, 0), 20, 1, 1);
+        RingKiln woodOnly = Kilns.priced(Kilns.fuelled(67, 0, 0), 20, 1, 1);
         Check.due(67 * 20, woodOnly.lowestCost(200));
         Check.due(67 * 20, woodOnly.lowestCostByTrying(200));
     }
 
     private static void bestMixture() {
         Check.topic("promise 29, the best mixture");
-        mixture(fuelled(40, 20, 5), 50, 17, 14, 1, 0);
-        mixture(priced(fuelled(40, 20, 5), 9, 3, 5), 50, 20, 0, 5, 1);
+        mixture(Kilns.fuelled(40, 20, 5), 50, 17, 14, 1, 0);
+        mixture(Kilns.priced(Kilns.fuelled(40, 20, 5), 9, 3, 5), 50, 20, 0, 5, 1);
         // Of 3 pieces of wood or 1 of coal for 3 coins, coal has the least heat.
-        mixture(fuelled(9, 9, 9), 8, 3, 0, 1, 0);
+        mixture(Kilns.fuelled(9, 9, 9), 8, 3, 0, 1, 0);
         // Where a unit costs the same everywhere, the most wood comes before the most coal.
-        mixture(priced(fuelled(9, 9, 9), 3, 8, 12), 24, 24, 8, 0, 0);
-        mixture(priced(fuelled(5, 9, 9), 3, 8, 12), 24, 24, 4, 0, 1);
-        mixture(priced(fuelled(3, 9, 9), 3, 8, 12), 24, 24, 0, 3, 0);
-        mixture(priced(fuelled(3, 2, 9), 3, 8, 12), 24, 24, 0, 0, 2);
+        mixture(Kilns.priced(Kilns.fuelled(9, 9, 9), 3, 8, 12), 24, 24, 8, 0, 0);
+        mixture(Kilns.priced(Kilns.fuelled(5, 9, 9), 3, 8, 12), 24, 24, 4, 0, 1);
+        mixture(Kilns.priced(Kilns.fuelled(3, 9, 9), 3, 8, 12), 24, 24, 0, 3, 0);
+        mixture(Kilns.priced(Kilns.fuelled(3, 2, 9), 3, 8, 12), 24, 24, 0, 0, 2);
         // The lowest cost comes before the least heat.
-        mixture(priced(fuelled(1, 0, 1), 6, 1, 5), 1, 5, 0, 0, 1);
-        RingKiln kiln = fuelled(1, 1, 1);
+        mixture(Kilns.priced(Kilns.fuelled(1, 0, 1), 6, 1, 5), 1, 5, 0, 0, 1);
+        RingKiln kiln = Kilns.fuelled(1, 1, 1);
         mixture(kiln, 23, 9, 1, 1, 1);
         Check.refused(UNSUPPORTED, () -> kiln.piecesInMixture('w', 24));
         Check.refused(ARGUMENT, () -> kiln.piecesInMixture('x', 1));
@@ -247,22 +229,9 @@ public final class FuelsAndWallsTest {
         Check.due(52, kiln.fewestBricks(18, 8));
     }
 
-    /** Returns a kiln with 60 bricks in the stock. */
-    private static RingKiln stocked() {
-        RingKiln kiln = fuelled(0, 0, 10);
-        kiln.setDraught(5);
-        kiln.feed(100);
-        kiln.load(3, 60);
-        kiln.light(3);
-        kiln.passHours(6);
-        kiln.passHours(48);
-        kiln.unload(3);
-        return kiln;
-    }
-
     private static void buildWall() {
         Check.topic("promises 11, 34 and 35, buildWall, stock and walls");
-        RingKiln kiln = stocked();
+        RingKiln kiln = Kilns.stocked();
         Check.due(60, kiln.stock());
         Check.refused(MISSING, () -> kiln.buildWall(4, 2));
         Check.due(0, kiln.walls());
@@ -283,7 +252,7 @@ public final class FuelsAndWallsTest {
 
     private static void totals() {
         Check.topic("promises 36 to 38, the totals");
-        RingKiln kiln = stocked();
+        RingKiln kiln = Kilns.stocked();
         Check.due(60, kiln.brickTotal());
         Check.due(60, kiln.brickTotalByAccounts());
         Check.due(45, kiln.paidTotal());
@@ -304,7 +273,7 @@ public final class FuelsAndWallsTest {
     private static void consistency() {
         Check.topic("promise 41, isConsistent");
         Check.due(true, new RingKiln().isConsistent());
-        RingKiln kiln = stocked();
+        RingKiln kiln = Kilns.stocked();
         Check.due(true, kiln.isConsistent());
         kiln.addFuel('w', 5);
         kiln.buildWall(9, 3);
@@ -314,6 +283,6 @@ public final class FuelsAndWallsTest {
         Check.due(true, kiln.isConsistent());
         kiln.undo();
         Check.due(true, kiln.isConsistent());
-        Check.due(true, fuelled(99, 99, 99).isConsistent());
+        Check.due(true, Kilns.fuelled(99, 99, 99).isConsistent());
     }
 }

@@ -24,17 +24,6 @@ public final class ProgramsTest {
         Check.finish();
     }
 
-    private static void type(RingKiln kiln, String text) {
-        for (char character : text.toCharArray()) {
-            kiln.append(character);
-        }
-    }
-
-    private static int run(RingKiln kiln, String text) {
-        type(kiln, text);
-        return kiln.run();
-    }
-
     private static String lineOf(RingKiln kiln, int length) {
         StringBuilder text = new StringBuilder();
         for (int i = 0; i < length; i++) {
@@ -63,29 +52,29 @@ public final class ProgramsTest {
     private static void commands() {
         Check.topic("promise 43, each command");
         RingKiln kiln = new RingKiln();
-        Check.due(1, run(kiln, "load 7 060"));
+        Check.due(1, Kilns.run(kiln, "load 7 060"));
         Check.due("e:20 e:20 e:20 e:20 e:20 e:20 e:20 g60:20", ringOf(kiln));
-        Check.due(3, run(kiln, "fuel w 9;fuel c 010;fuel o 50"));
+        Check.due(3, Kilns.run(kiln, "fuel w 9;fuel c 010;fuel o 50"));
         Check.due("9 10 50", kiln.fuel('w') + " " + kiln.fuel('c') + " " + kiln.fuel('o'));
-        Check.due(3, run(kiln, "price w 20;price c 07;price o 1"));
+        Check.due(3, Kilns.run(kiln, "price w 20;price c 07;price o 1"));
         Check.due("20 7 1", kiln.price('w') + " " + kiln.price('c') + " " + kiln.price('o'));
-        Check.due(1, run(kiln, "feed 100"));
+        Check.due(1, Kilns.run(kiln, "feed 100"));
         Check.due(108, kiln.heat());
         Check.due(41, kiln.fuel('o'));
-        Check.due(1, run(kiln, "light 7"));
+        Check.due(1, Kilns.run(kiln, "light 7"));
         Check.due(7, kiln.fireChamber());
-        Check.due(1, run(kiln, "out"));
+        Check.due(1, Kilns.run(kiln, "out"));
         Check.due(false, kiln.isLit());
-        Check.due(1, run(kiln, "draught 5"));
+        Check.due(1, Kilns.run(kiln, "draught 5"));
         Check.due(5, kiln.draught());
-        Check.due(3, run(kiln, "light 7;pass 6;pass 048"));
+        Check.due(3, Kilns.run(kiln, "light 7;pass 6;pass 048"));
         Check.due(54, kiln.time());
         Check.due('f', kiln.state(7));
-        Check.due(1, run(kiln, "take 7"));
+        Check.due(1, Kilns.run(kiln, "take 7"));
         Check.due(60, kiln.stock());
-        Check.due(1, run(kiln, "wall 18 8"));
+        Check.due(1, Kilns.run(kiln, "wall 18 8"));
         Check.due(8, kiln.stock());
-        Check.due(2, run(kiln, "wall 003 2;wall 2 1"));
+        Check.due(2, Kilns.run(kiln, "wall 003 2;wall 2 1"));
         Check.due(5, kiln.stock());
         Check.due(3, kiln.walls());
     }
@@ -95,7 +84,7 @@ public final class ProgramsTest {
         RingKiln kiln = new RingKiln();
         kiln.addFuel('o', 2);
         kiln.feed(20);
-        Check.due(4, run(kiln, "load 5 30;light 5;pass 2;out"));
+        Check.due(4, Kilns.run(kiln, "load 5 30;light 5;pass 2;out"));
         Check.due(320, kiln.temperature(5));
         Check.refused(STATE, () -> kiln.quench());
         Check.due(2, kiln.time());
@@ -103,16 +92,16 @@ public final class ProgramsTest {
         String draughts = "draught 2;".repeat(5);
         Check.due(60, (draughts + "fuel w 001").length());
         RingKiln full = new RingKiln();
-        Check.due(6, run(full, draughts + "fuel w 001"));
+        Check.due(6, Kilns.run(full, draughts + "fuel w 001"));
         Check.due(2, full.draught());
         Check.due(1, full.fuel('w'));
         RingKiln fires = new RingKiln();
         // The most commands that the buffer can hold are 15; all but the first one fail here.
         fires.load(0, 1);
         fires.light(0);
-        Check.refused(UNSUPPORTED, () -> run(fires, "out;".repeat(14) + "out"));
+        Check.refused(UNSUPPORTED, () -> Kilns.run(fires, "out;".repeat(14) + "out"));
         Check.due(1, fires.failedCommand());
-        Check.refused(ARGUMENT, () -> run(fires, "out;".repeat(15)));
+        Check.refused(ARGUMENT, () -> Kilns.run(fires, "out;".repeat(15)));
         Check.due(60, fires.errorPosition());
         Check.due(true, fires.isLit());
     }
@@ -121,7 +110,7 @@ public final class ProgramsTest {
         Check.topic("promise 44, errorPosition");
         RingKiln kiln = new RingKiln();
         Check.refused(MISSING, () -> kiln.errorPosition());
-        Check.due(1, run(kiln, "pass 1"));
+        Check.due(1, Kilns.run(kiln, "pass 1"));
         Check.refused(MISSING, () -> kiln.errorPosition());
         // In each row: a text, and behind the bar its error position.
         String[] rows = {
@@ -136,12 +125,15 @@ public final class ProgramsTest {
         };
         for (String row : rows) {
             int bar = row.indexOf('|');
+            RingKiln other = new RingKiln();
             Check.topic("promise 44, errorPosition of \"" + row.substring(0, bar) + "\"");
-            Check.refused(ARGUMENT, () -> run(kiln, row.substring(0, bar)));
-            Check.due(row.substring(bar + 1), kiln.errorPosition());
+            Check.refused(ARGUMENT, () -> Kilns.run(other, row.substring(0, bar)));
+            Check.due(row.substring(bar + 1), other.errorPosition());
+            Check.due(0, other.time());
         }
+        Check.refused(ARGUMENT, () -> Kilns.run(kiln, "draught"));
         Check.due(1, kiln.time());
-        Check.due(1, run(kiln, "draught 0"));
+        Check.due(1, Kilns.run(kiln, "draught 0"));
         Check.due(7, kiln.errorPosition());
         Check.refused(MISSING, () -> kiln.failedCommand());
     }
@@ -151,7 +143,7 @@ public final class ProgramsTest {
         RingKiln kiln = new RingKiln();
         Check.refused(MISSING, () -> kiln.failedCommand());
         kiln.setDraught(3);
-        Check.refused(UNSUPPORTED, () -> run(kiln, "load 0 5;fuel w 50;fuel w 50;pass 1"));
+        Check.refused(UNSUPPORTED, () -> Kilns.run(kiln, "load 0 5;fuel w 50;fuel w 50;pass 1"));
         Check.due(2, kiln.failedCommand());
         Check.due('e', kiln.state(0));
         Check.due(0, kiln.fuel('w'));
@@ -167,15 +159,18 @@ public final class ProgramsTest {
             "pass 0", "pass 49", "pass 999", "wall 1 1", "wall 19 1", "wall 4 0", "wall 4 9", "wall 4 2", "wall 2 1"
         };
         for (String command : wrong) {
+            RingKiln other = new RingKiln();
             Check.topic("promise 45, failedCommand of \"" + command + "\"");
-            Check.refused(UNSUPPORTED, () -> run(kiln, command));
-            Check.due(0, kiln.failedCommand());
-            Check.refused(UNSUPPORTED, () -> run(kiln, "pass 3;" + command + ";pass 3"));
-            Check.due(1, kiln.failedCommand());
+            Check.refused(UNSUPPORTED, () -> Kilns.run(other, command));
+            Check.due(0, other.failedCommand());
+            Check.refused(UNSUPPORTED, () -> Kilns.run(other, "pass 3;" + command + ";pass 3"));
+            Check.due(1, other.failedCommand());
+            Check.due(0, other.time());
         }
+        Check.refused(UNSUPPORTED, () -> Kilns.run(kiln, "pass 3;out;pass 3"));
         Check.due(0, kiln.time());
         Check.due(1, kiln.errorPosition());
-        Check.due(1, run(kiln, "pass 1"));
+        Check.due(1, Kilns.run(kiln, "pass 1"));
         Check.due(1, kiln.failedCommand());
         // Neither the failures nor the texts that are no programs can be undone.
         Check.due(1, kiln.undo());
@@ -190,9 +185,9 @@ public final class ProgramsTest {
         Check.refused(INDEX, () -> kiln.outputAt(0));
         Check.due(39, kiln.writeRing());
         Check.due("e:20 e:20 e:20 e:20 e:20 e:20 e:20 e:20", ringOf(kiln));
-        run(kiln, "fuel o 25;feed 120;load 7 20;load 0 5;light 7;pass 6");
+        Kilns.run(kiln, "fuel o 25;feed 120;load 7 20;load 0 5;light 7;pass 6");
         Check.due("g5:260* e:20 e:20 e:20 e:20 e:20 e:20 f20:920", ringOf(kiln));
-        run(kiln, "pass 5");
+        Kilns.run(kiln, "pass 5");
         Check.due("f5:1010 e:220 e:20 e:20 e:20 e:20 e:20 f20:553", ringOf(kiln));
         // The line is what was written last, whatever happens to the kiln.
         kiln.passHours(48);
@@ -290,7 +285,7 @@ public final class ProgramsTest {
         kiln.buildWall(9, 3);
         kiln.undo();
         Check.due("30 0 30", kiln.stock() + " " + kiln.walls() + " " + kiln.brickTotalByAccounts());
-        run(kiln, "wall 9 3;pass 5;load 3 3");
+        Kilns.run(kiln, "wall 9 3;pass 5;load 3 3");
         Check.due("20 1", kiln.stock() + " " + kiln.walls());
         kiln.undo();
         Check.due("30 0 e 48", kiln.stock() + " " + kiln.walls() + " " + kiln.state(3) + " " + kiln.time());
@@ -303,8 +298,8 @@ public final class ProgramsTest {
         RingKiln kiln = new RingKiln();
         kiln.save();
         kiln.passHours(1);
-        Check.refused(ARGUMENT, () -> run(kiln, "pass x"));
-        Check.refused(UNSUPPORTED, () -> run(kiln, "pass 1;out"));
+        Check.refused(ARGUMENT, () -> Kilns.run(kiln, "pass x"));
+        Check.refused(UNSUPPORTED, () -> Kilns.run(kiln, "pass 1;out"));
         kiln.writeFirstCourse(5);
         kiln.append('p');
         kiln.undo();
@@ -313,7 +308,7 @@ public final class ProgramsTest {
         kiln.restore();
         Check.due("5 1 23", kiln.errorPosition() + " " + kiln.failedCommand() + " " + lineOf(kiln, 2));
         Check.due(3, kiln.append('s'));
-        Check.due(1, run(kiln, "s 3"));
+        Check.due(1, Kilns.run(kiln, "s 3"));
         Check.due(3, kiln.time());
         // Undo does not take back what was saved.
         kiln.save();
@@ -330,8 +325,8 @@ public final class ProgramsTest {
             kiln.restore();
             return "nothing";
         });
-        run(kiln, "fuel o 20;price c 9;draught 4;load 1 7;load 2 8;feed 99");
-        run(kiln, "light 1;pass 6");
+        Kilns.run(kiln, "fuel o 20;price c 9;draught 4;load 1 7;load 2 8;feed 99");
+        Kilns.run(kiln, "light 1;pass 6");
         String ring = ringOf(kiln);
         kiln.save();
         Check.due(1, kiln.undo());

@@ -3,7 +3,9 @@ import java.lang.management.ManagementFactory;
 
 /** All calls of a run share one room, so calls use the rows again that the constructor made. */
 public final class RoomTest {
-    private static final int ROUNDS = 512;
+    private static final int OBJECTS = 80;
+    // So that no object gets more calls than the document promises answers of.
+    private static final int ROUNDS = 6;
     private static final long MOST_BYTES_OF_A_ROUND = 64;
     private static final long MOST_BYTES_OF_AN_OBJECT = 30_000;
     private static final String PROGRAM = "light 3;pass 48;draught 2;feed 50";
@@ -24,11 +26,14 @@ public final class RoomTest {
         long size = allocated() - before;
         Check.due(true, size <= MOST_BYTES_OF_AN_OBJECT);
         Check.topic("the room of many calls");
-        kiln = newKiln();
-        useOnce();
+        RingKiln[] kilns = new RingKiln[OBJECTS];
+        for (int i = 0; i < OBJECTS; i++) kilns[i] = newKiln();
         before = allocated();
-        for (int round = 0; round < ROUNDS; round++) useOnce();
-        long each = (allocated() - before) / ROUNDS;
+        for (RingKiln next : kilns) {
+            kiln = next;
+            for (int round = 0; round < ROUNDS; round++) useOnce();
+        }
+        long each = (allocated() - before) / (OBJECTS * ROUNDS);
         Check.due(true, each <= MOST_BYTES_OF_A_ROUND);
         System.out.println("a new object takes " + size + " bytes, a round of the dearest calls " + each);
         Check.finish();
